@@ -173,6 +173,35 @@ public final class PromisesTest {
         textOf(x, 0, "l-3");
         x.change(6, 0, 9);
         due("CADET leaves 7", x.ofDiner(6, 11), 4);
+        textOf(x, 0, "l-1");
+        due("SUBALTERN leaves 4", x.ofDiner(3, 11), 3);
+        x.change(5, 0, 8);
+        due("DUCHESS leaves 4", x.ofDiner(5, 6), 3);
+        edges();
+    }
+
+    /** On either side of each number that the KINDS look at. */
+    private static void edges() {
+        ScullerySweets x = house(5, 2, 25, 2, 35, 4, 54, 4);
+        x.dish(0, 1, 5);
+        due("FAT 5", x.ofDiner(0, 6), 0);
+        x.dish(0, 1, 6);
+        due("FAT 6", x.ofDiner(0, 6), 1);
+        due("SWEET 5", x.ofDiner(1, 11), 0);
+        x.dish(5, 0, 6);
+        due("SWEET 6", x.ofDiner(1, 11), 1);
+        x.dish(5, 0, 5);
+        due("s and g are 9", x.ofDiner(2, 11), 1);
+        x.dish(5, 0, 6);
+        due("s and g are 10", x.ofDiner(2, 11), 4);
+        x.days(1);
+        x.change(3, 0, 4);
+        due("m is as g", x.ofDiner(3, 7), 1);
+        x.change(3, 0, 3);
+        due("m is above g", x.ofDiner(3, 7), 4);
+        x.days(1);
+        x.change(3, 0, 3);
+        due("an even DAY", x.ofDiner(3, 7), 1);
     }
 
     private static void changes() {
@@ -278,6 +307,8 @@ public final class PromisesTest {
         due("law(1, 8, 0, 0)", x.law(1, 8, 0, 0), 8);
         due("law(2, 0, 0, 0)", x.law(2, 0, 0, 0), BEYOND);
         due("law(-1, 0, 0, 0)", x.law(-1, 0, 0, 0), BEYOND);
+        textOf(x, 1, "1023-1020");
+        due("digits", x.law(1, 0, 0, 0), 3);
         String[] texts = {"2+3*2", "9-3-2", "8/2/2", "7%4%2", "1/0+3", "1%0+3", "(0-7)/2+9", "(0-7)%4+9", "!0+!5+3",
             "2|0", "2&3", "0|0", "5&0", "1<2", "2<2", "2=2", "2>2", "3>2", "!2=0", "1|0&0", "1+1<3", "e*e=1", "e+e-2",
             "9/(e-e)+7", "7", "0|7", "(1<2)+(2>1)*3"};
@@ -368,7 +399,8 @@ public final class PromisesTest {
         due("loose(40)", x.loose(40), STATE);
         due("loose(41)", x.loose(41), BEYOND);
         due("z stays", x.count(10), 1);
-        x.days(39);
+        x.days(38);
+        due("loose(1) up to the last", x.loose(1), x.count(3));
         due("count(1)", x.count(1), 9999);
         due("days(1)", x.days(1), STATE);
         due("loose(1)", x.loose(1), STATE);
@@ -467,6 +499,9 @@ public final class PromisesTest {
         textOf(x, 1, "9*(e=2)");
         due("roomFor(0, 9, 1)", x.roomFor(0, 9, 1), 2);
         due("ROOM stays", x.count(2), 12);
+        x = house(10, 9, 10, 9, 10, 9, 10, 9, 10, 9, 10, 9, 10, 9, 10, 9);
+        due("all ROOM that there is", x.roomFor(1, 8, 1), 40);
+        due("more than there is", x.roomFor(1, 9, 1), NONE);
     }
 
     private static void bests() {
@@ -500,9 +535,14 @@ public final class PromisesTest {
         x.menu(0, 0);
         x.menu(3, 5);
         due("of several the least", x.swap(1), 3);
+        x.menu(0, 9);
+        x.menu(3, 3);
+        x.house(0, 9);
+        due("COURSES 1 and 5 (0 tastes most as it is)", x.swap(1), 15);
+        due("20 is not BEYOND", Math.max(-1, x.swap(20)), x.swap(20));
         due("swap(-1)", x.swap(-1), BEYOND);
         due("swap(21)", x.swap(21), BEYOND);
-        due("the MENU stays", x.menu(3, -1), 5);
+        due("the MENU stays", x.menu(3, -1), 3);
     }
 
     private static void whoseAndLoved() {
@@ -560,6 +600,10 @@ public final class PromisesTest {
         due("pack(15)", x.pack(15), 20);
         due("pack(18)", x.pack(18), 25);
         due("pack(40)", x.pack(40), 48);
+        textOf(x, 0, "l-2");
+        due("only of what is LEFT", x.pack(1), 0);
+        due("only of what is LEFT", x.pack(40), 18);
+        textOf(x, 0, "l");
         due("pack(41)", x.pack(41), BEYOND);
         due("pack(-1)", x.pack(-1), BEYOND);
         promise = 25;
@@ -631,6 +675,12 @@ public final class PromisesTest {
         due("all", x.odds(0, 1, 0, 1), 1);
         due("none", x.odds(0, 1, 7, 0), 0);
         due("none", x.odds(0, 1, 7, 1), 1);
+        // 2 of each COURSE: KNOWN by ROOM 0, 4, 8, then 12.
+        x.change(0, 0, 6);
+        due("ROOM 8", x.odds(0, 1, 8, 0), 4);
+        due("ROOM 12", x.odds(0, 1, 9, 0), 7);
+        due("ROOM 12", x.odds(0, 1, 12, 1), 10);
+        due("odds(.., 30, ..)", x.odds(0, 30, 0, 1), 1);
         due("odds(1, ..)", x.odds(1, 0, 0, 0), BEYOND);
         due("odds(.., 31, ..)", x.odds(0, 31, 0, 0), BEYOND);
         due("odds(.., 100, ..)", x.odds(0, 0, 100, 0), BEYOND);
