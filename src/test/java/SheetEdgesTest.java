@@ -51,6 +51,16 @@ public final class SheetEdgesTest extends Edges {
         due("voice(7, 2, 0)", 14);
         due("voice(7, 3, 0)", 14);
         due("voice(0, 3, 0)", 0);
+        sentence(31, "each BODY's own numbers and signs, n 1, m 3, x 5");
+        diners(0, 0, 0, 0);
+        int[][] said = {{6, 12, 2, 14}, {18, 36, 2, 38}, {6, 14, 2, 12}, {6, 12, -2, -14}, {18, 36, 2, 29},
+            {6, 16, 2, 18}, {6, 12, -1, 25}};
+        for (int kind = 0; kind <= 6; kind++) {
+            does("become(1, " + (10 * kind + 3) + ")");
+            for (int act = 0; act <= 3; act++) {
+                due("voice(1, " + act + ", 5)", said[kind][act]);
+            }
+        }
         sentence(31, "any number: one that looks like an ERROR is none");
         diners(0, 0);
         due("voice(0, 0, -1000000001)", BEYOND);
@@ -510,6 +520,19 @@ public final class SheetEdgesTest extends Edges {
         does("restore()");
         due("told(1)", 1);
         due("told(2)", 1);
+        sentence(39, "a DINER that lacks again is nobody, now and in thought");
+        diners(0, 5);
+        does("change(0, 1, 1)", "image()");
+        diners(10, 9);
+        due("then(1, 0, 0)", 6);
+        does("days(1)");
+        due("ofDiner(0, 2)", 6);
+        does("restore()");
+        due("then(1, 0, 0)", 4);
+        does("days(1)");
+        due("ofDiner(0, 2)", 4);
+        due("diner(0, 0)", 1);
+        due("ofDiner(1, 4)", 0);
         sentence(39, "the IMAGE stays as it was, whatever is done behind restore()");
         diners(0, 9);
         does("image()");
