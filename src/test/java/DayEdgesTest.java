@@ -139,6 +139,24 @@ public final class DayEdgesTest extends Edges {
         due("days(1)", 99998);
     }
 
+    private void tasting() {
+        sentence(14, "TASTE by the TEXT, for each SWEET and each GRIEF, of 1 to 4 quarters");
+        diners(0, 0);
+        does("house(0, 40)");
+        text(1, "(e*7+s*3+g)%10");
+        for (int e = 1; e <= 4; e++) {
+            text(0, Integer.toString(e));
+            for (int g = 0; g <= 9; g++) {
+                does("change(0, 0, " + g + ")", "change(0, 2, 0)", "menu(0, " + g + ")", "days(1)");
+                int known = (e * 7 + g * 3 + g) % 10;
+                for (int s = 1; s <= 5; s++) {
+                    known += (e * 7 + s * 3 + g) % 10;
+                }
+                due("ofDiner(0, 4)", known);
+            }
+        }
+    }
+
     private void grieving() {
         sentence(14, "if the one that it LOVES LEFT 4 quarters: 3 are not enough");
         diners(0, 5, 0, 9);
@@ -311,6 +329,7 @@ public final class DayEdgesTest extends Edges {
         t.numbersOfDays();
         t.eating();
         t.knowing();
+        t.tasting();
         t.grieving();
         t.mending();
         t.looseNumbers();

@@ -329,6 +329,24 @@ public final class HouseEdgesTest extends Edges {
         left(0, 0, 0, 0, 4);
     }
 
+    private void leftByText() {
+        sentence(7, "LEFT by the TEXT, for each SWEET and each GRIEF");
+        diners(0, 0);
+        text(0, "(l*7+s*3+g)%5");
+        for (int shift = 0; shift <= 4; shift += 4) {
+            for (int course = 0; course < 6; course++) {
+                does("menu(" + course + ", " + (course + shift) + ")");
+            }
+            for (int g = 0; g <= 9; g++) {
+                does("change(0, 0, " + g + ")");
+                for (int course = 0; course < 6; course++) {
+                    int s = course + shift;
+                    due("ofDiner(0, " + (6 + course) + ")", (g / 3 * 7 + s * 3 + g) % 5);
+                }
+            }
+        }
+    }
+
     private void mends(int km, int even, int odd) {
         sentence(7, "MENDS of km " + km + " in even and odd DAYS");
         diners(km, 5);
@@ -455,6 +473,7 @@ public final class HouseEdgesTest extends Edges {
         t.askingDiners();
         t.leavings();
         t.leavingsOfOthers();
+        t.leftByText();
         t.mendings();
         t.changes();
         t.becomings();

@@ -296,6 +296,23 @@ public final class TextEdgesTest extends Edges {
         due("law(1, MIN, MIN, 0)", same);
     }
 
+    private void longest() {
+        sentence(13, "a TEXT of 50 bytes, each of them a NAME or a sign, is worked out whole");
+        text(1, "!e" + "+e".repeat(24));
+        due("law(1, 0, 0, 0)", 1);
+        due("law(1, 1, 0, 0)", 9);
+        text(1, "!e" + "-e".repeat(24));
+        due("law(1, 0, 0, 0)", 1);
+        due("law(1, -1, 0, 0)", 9);
+        text(1, "!" + "e-".repeat(23) + "e/s");
+        due("law(1, 0, 0, 0)", 1);
+        due("law(1, -1, 5, 0)", 9);
+        sentence(13, "a TEXT with as much still to be joined as its bytes leave room for");
+        text(1, "1&1<1+1*(".repeat(4) + "1&1<1+1*e))))");
+        due("law(1, 0, 0, 0)", 0);
+        due("law(1, 1, 0, 0)", 1);
+    }
+
     private void given(String text, int a, int b, int c, int want) {
         text(1, text);
         due("law(1, " + a + ", " + b + ", " + c + ")", want);
@@ -343,6 +360,7 @@ public final class TextEdgesTest extends Edges {
         t.holding();
         t.wrapping();
         t.truth();
+        t.longest();
         t.orders();
         t.end(11, 13);
     }
